@@ -673,7 +673,9 @@ public final class BilingualSetter {
             if (left <= 0) {
                 return false;
             }
-            for (int x = left - least; x >= least; x--) {
+            // More lines than the page has rows left cannot fit, so they are not tried.
+            int most = Math.min(left - least, height - now.next[0]);
+            for (int x = most; x >= least; x--) {
                 int y = (2 * x * right + left) / (2 * left);
                 if (y >= least && right - y >= least) {
                     start.takeStart(rest, x, y);
