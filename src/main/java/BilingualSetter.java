@@ -596,6 +596,7 @@ public final class BilingualSetter {
         /** The height for which they are made, or NONE if they are not made since the last change. */
         int height = NONE;
         int count;
+        /** The first segment of each spread, and behind them the number of all segments. */
         final int[] firstSegment = new int[MAX_SPREADS + 1];
         final int[] overfull = new int[MAX_SPREADS];
         final int[][] segments = new int[SEGMENT_ROWS][MAX_SEGMENTS];
@@ -617,7 +618,6 @@ public final class BilingualSetter {
             now.turn(0, 0, 0);
             now.turn(1, 0, 0);
             for (int n = 0; n < MAX_SPREADS && (edition.hasPair(rest.pair) || isCarried()); n++) {
-                firstSegment[count] = segmentsMade;
                 overfull[count] = 0;
                 boolean goesOn = true;
                 for (int pairs = 0; goesOn && pairs < MAX_PAIRS; pairs++) {

@@ -84,7 +84,13 @@ final class SearchTest {
         // 2+2 | 2 has 1 and 4 blank rows; 2 | 2+2 has 6 and 6.
         Due.are("a note of the second pair", best(x, 3), 1 + 16, 0, 2, MISSING);
         x.undo();
+        Due.is("bestBreak first after a change", x.bestBreak(1), MISSING);
         Due.are("undo", best(x, 2), 0, 0, MISSING);
+        x.set(1, 3);
+        Due.are("a gap of 3", best(x, 3), 1 + 1, 0, 2, MISSING);
+        x.remove(2);
+        x.remove(1);
+        Due.are("fewer pairs", best(x, 2), 0, 0, MISSING);
     }
 
     private static void noDivision() {

@@ -410,6 +410,9 @@ final class SpreadsTest {
                 0, 0, 1, 1);
         Due.are("rowOf, left", new int[] {x.rowOf(0, 0, 2), x.rowOf(1, 0, 0), x.rowOf(1, 0, 3), x.rowOf(1, 0, 4), x.rowOf(1, 0, 9)},
                 2, 4, 7, 0, 5);
+        x.setLines(0, 0, 4);
+        Due.is("rowOf first after a change", x.rowOf(1, 0, 4), 1);
+        x.setLines(0, 0, 3);
         Due.are("rowOf, right", new int[] {x.rowOf(0, 1, 1), x.rowOf(1, 1, 0), x.rowOf(1, 1, 1), x.rowOf(1, 1, 2), x.rowOf(1, 1, 4)},
                 1, 3, 4, 0, 2);
         Due.are("spreadOf's errors", new int[] {x.spreadOf(2, 0, 0), x.spreadOf(-1, 0, 0), x.spreadOf(0, 2, 0),

@@ -69,7 +69,12 @@ final class TextTest {
         Due.are("old pair 1 keeps them", pair(x, 2), 7, 8, 1, 1);
         Due.are("its note moves with it", note(x, 0, 0), 2, 6, 4);
         Due.are("the note before stays", note(x, 1, 0), 0, 0, 5);
-        for (int count = 5; count <= 20; count++) {
+        x.insert(0, 6, 6);
+        Due.are("both notes move", new int[] {x.noteInfo(0, 0, 0), x.noteInfo(1, 0, 0)}, 3, 1);
+        x.addNote(1, 0, 0, 1);
+        x.insert(1, 6, 6);
+        Due.are("a note of line 0 moves", note(x, 0, 0), 2, 0, 1);
+        for (int count = 7; count <= 20; count++) {
             Due.is("insert up to 20", x.insert(0, 2, 2), count);
         }
         Due.is("insert a 21st", x.insert(20, 2, 2), LIMIT);
@@ -91,11 +96,15 @@ final class TextTest {
         x.addNote(2, 0, 3, 4);
         x.addNote(1, 1, 0, 5);
         Due.are("remove out of range", new int[] {x.remove(-1), x.remove(3)}, INVALID, INVALID);
+        x.addNote(2, 0, 0, 6);
+        x.addNote(2, 1, 0, 7);
         Due.is("remove(1)", x.remove(1), 2);
         Due.are("pair 1 is the former 2", pair(x, 1), 6, 7, 0, 1);
-        Due.are("notes that are left", new int[] {x.noteCount(0), x.noteCount(1)}, 2, 0);
+        Due.are("notes that are left", new int[] {x.noteCount(0), x.noteCount(1)}, 3, 1);
         Due.are("note 0", note(x, 0, 0), 0, 1, 1);
-        Due.are("note 1", note(x, 0, 1), 1, 3, 4);
+        Due.are("note 1", note(x, 0, 1), 1, 0, 6);
+        Due.are("note 2", note(x, 0, 2), 1, 3, 4);
+        Due.are("right note", note(x, 1, 0), 1, 0, 7);
         Due.are("remove the others", new int[] {x.remove(1), x.remove(0), x.remove(0)}, 1, 0, INVALID);
         Due.are("all is gone", new int[] {x.noteCount(0), x.spreadCount()}, 0, 0);
     }
@@ -119,6 +128,9 @@ final class TextTest {
         Due.is("a note of the next pair does not matter", x.setLines(0, 0, 10), 10);
         Due.is("a note of the pair before does not matter", x.setLines(1, 0, 2), IMPOSSIBLE);
         Due.is("a pair's last line", x.setLines(1, 0, 3), 3);
+        x.insert(2, 4, 4);
+        x.addNote(2, 0, 0, 1);
+        Due.is("nor a note of its first line", x.setLines(1, 0, 4), 3);
     }
 
     private static void promise5SetFlag() {
@@ -238,6 +250,11 @@ final class TextTest {
         Due.are("undo remove, setFlag, removeNote", new int[] {x.undo(), x.pairInfo(0, 3), x.undo(), x.pairInfo(0, 3),
             x.noteCount(0), x.undo(), x.noteCount(0)}, 4, 1, 3, 0, 0, 2, 1);
         Due.are("the note is back", note(x, 0, 0), 0, 3, 7);
+        x.addNote(0, 1, 5, 3);
+        x.addNote(0, 1, 0, 2);
+        x.removeNote(1, 1);
+        Due.are("undo on the right", new int[] {x.undo(), x.noteInfo(1, 1, 1), x.noteInfo(1, 0, 2), x.undo(),
+            x.noteInfo(1, 0, 1), x.undo(), x.noteCount(1)}, 4, 5, 2, 3, 5, 2, 0);
         Due.are("undo addNote and insert", new int[] {x.undo(), x.noteCount(0), x.undo(), x.pairCount()}, 1, 0, 0, 0);
     }
 
