@@ -15,6 +15,16 @@ final class Due {
         }
     }
 
+    /** Answers that are told as texts. */
+    static void same(String when, String got, String due) {
+        if (got.equals(due)) {
+            right++;
+        } else {
+            wrong++;
+            System.out.println(when + ": " + got + ", due is " + due);
+        }
+    }
+
     /** Answers of several calls, which are told together. */
     static void are(String calls, int[] got, int... due) {
         is(calls + ", number of answers", got.length, due.length);

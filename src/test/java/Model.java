@@ -206,6 +206,10 @@ final class Model {
         return history.size();
     }
 
+    int height() {
+        return settings[0];
+    }
+
     int pairCount() {
         return pairs.size();
     }

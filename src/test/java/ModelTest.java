@@ -1,16 +1,21 @@
+import java.util.function.IntSupplier;
+
 /**
  * Runs of calls with arguments in and out of their ranges, made by a fixed arithmetic: the program
  * answers each as the model does. A run has 512 calls, and each kind of run its own kind of text.
  */
 final class ModelTest {
     private static final int CALLS = 512;
-    private static final int RUNS = 200;
+    // Half of the runs ask for all that there is, in the calls that they keep for that.
+    private static final int CALLS_BEFORE_ALL = 200;
+    private static final int RUNS = 240;
     private static final int[] ODD = {Integer.MIN_VALUE, -101, -2, -1, 41, 61, 100, 101, 10000, Integer.MAX_VALUE};
 
     private long seed;
     private final BilingualSetter setter = new BilingualSetter();
     private final Model model = new Model();
     private final int kind;
+    private int left;
 
     private ModelTest(int run) {
         seed = 977L * run + 13;
@@ -63,7 +68,8 @@ final class ModelTest {
     }
 
     private void run(int run) {
-        for (int call = 0; call < CALLS && Due.wrong() < 20; call++) {
+        int calls = run / 8 % 2 == 0 ? CALLS : CALLS_BEFORE_ALL;
+        for (int call = 0; call < calls && Due.wrong() < 20; call++) {
             String name = "run " + run + ", call " + call + ": ";
             int way = pick(100);
             if (way < 45 || call < 60) {
@@ -72,6 +78,7 @@ final class ModelTest {
                 ask(name, pick(20));
             }
         }
+        left = CALLS - calls;
         askAll("run " + run + ", at its end: ");
     }
 
@@ -150,20 +157,40 @@ final class ModelTest {
 
     private void askAll(String name) {
         int spreads = model.spreadCount();
-        Due.is(name + "spreadCount", setter.spreadCount(), spreads);
-        for (int spread = -1; spread <= spreads; spread++) {
-            for (int side = -1; side <= 2; side++) {
-                for (int row = -1; row <= 100; row += side == 0 || side == 1 ? 1 : 50) {
-                    Due.is(name + "shown(" + spread + ", " + side + ", " + row + ")",
-                            setter.shown(spread, side, row), model.shown(spread, side, row));
-                }
-            }
+        is(name + "spreadCount", setter::spreadCount, model::spreadCount);
+        for (int n = -1; n <= model.pairCount(); n++) {
+            int group = n;
+            is(name + "bestBreak(" + group + ")", () -> setter.bestBreak(group), () -> model.bestBreak(group));
         }
-        for (int group = -1; group <= model.pairCount(); group++) {
-            Due.is(name + "bestBreak(" + group + ")", setter.bestBreak(group), model.bestBreak(group));
+        for (int n = 0; n <= 41; n += 4) {
+            int most = n;
+            is(name + "leastHeight(" + most + ")", () -> setter.leastHeight(most), () -> model.leastHeight(most));
         }
-        for (int count = 0; count <= 41; count += 4) {
-            Due.is(name + "leastHeight(" + count + ")", setter.leastHeight(count), model.leastHeight(count));
+        // The last spreads are asked first: what went wrong before shows in them as well.
+        for (int spread = spreads; spread >= -1 && left > 0; spread--) {
+            askPage(name, spread, 0);
+            askPage(name, spread, 1);
+        }
+    }
+
+    private void askPage(String name, int spread, int side) {
+        for (int n = 0; n <= 5; n++) {
+            int what = n;
+            is(name + "pageInfo(" + spread + ", " + side + ", " + what + ")",
+                    () -> setter.pageInfo(spread, side, what), () -> model.pageInfo(spread, side, what));
+        }
+        for (int n = -1; n <= model.height() + 5; n++) {
+            int row = n;
+            is(name + "shown(" + spread + ", " + side + ", " + row + ")",
+                    () -> setter.shown(spread, side, row), () -> model.shown(spread, side, row));
+        }
+    }
+
+    /** Compares, if a call is left. */
+    private void is(String call, IntSupplier got, IntSupplier due) {
+        if (left > 0) {
+            left--;
+            Due.is(call, got.getAsInt(), due.getAsInt());
         }
     }
 }

@@ -29,82 +29,73 @@ final class SearchTest {
         return x;
     }
 
-    private static int[] best(BilingualSetter x, int groups) {
-        int[] got = new int[groups + 1];
-        got[0] = x.bestCost();
-        for (int group = 0; group < groups; group++) {
-            got[group + 1] = x.bestBreak(group);
-        }
-        return got;
-    }
-
     private static void bestDivision() {
         BilingualSetter x = withLines(8, 3, 3, 3);
-        Due.are("one and six", best(x, 3), 2 * 4, 0, 2, MISSING);
+        Due.are("one and six", Ask.best(x, 2), 2 * 4, 0, 2, MISSING);
         x.set(1, 3);
-        Due.are("a gap of 3 parts all", best(x, 4), 4 * 25, 0, 1, 2, MISSING);
+        Due.are("a gap of 3 parts all", Ask.best(x, 3), 4 * 25, 0, 1, 2, MISSING);
         x = withLines(10, 5, 4, 4, 6, 3);
         // 5+4 | 4+6 | 3 has blanks 1, 0; 5 | 4+4 | 6+3 has 5, 2.
-        Due.are("both sides alike", best(x, 4), 2, 0, 2, 4, MISSING);
+        Due.are("both sides alike", Ask.best(x, 3), 2, 0, 2, 4, MISSING);
         x.setLines(0, 1, 8);
         // Now the right side of 5 and 8 | 4 can't stand together: 2 and 5 | 2 and 2 | last.
-        Due.are("the right side is longer", best(x, 4), 4 + 25 + 4 + 4, 0, 1, 3, MISSING);
+        Due.are("the right side is longer", Ask.best(x, 3), 4 + 25 + 4 + 4, 0, 1, 3, MISSING);
         Due.are("bestBreak's errors", new int[] {x.bestBreak(-1), x.bestBreak(Integer.MIN_VALUE), x.bestBreak(3),
             x.bestBreak(Integer.MAX_VALUE)}, INVALID, INVALID, MISSING, MISSING);
         x = withLines(20, 20);
-        Due.are("one pair that fills a page", best(x, 2), 0, 0, MISSING);
+        Due.are("one pair that fills a page", Ask.best(x, 1), 0, 0, MISSING);
         x = new BilingualSetter();
-        Due.are("no pairs", best(x, 1), 0, MISSING);
+        Due.are("no pairs", Ask.best(x, 0), 0, MISSING);
         Due.is("no pairs, negative group", x.bestBreak(-1), INVALID);
     }
 
     private static void equalDivisions() {
         BilingualSetter x = withLines(8, 3, 3, 3, 8);
-        Due.are("the longer first group", best(x, 4), 2 * 4 + 2 * 25, 0, 2, 3, MISSING);
+        Due.are("the longer first group", Ask.best(x, 3), 2 * 4 + 2 * 25, 0, 2, 3, MISSING);
         x = withLines(8, 8, 3, 3, 3, 8);
-        Due.are("the longer second group", best(x, 5), 2 * 4 + 2 * 25, 0, 1, 3, 4, MISSING);
+        Due.are("the longer second group", Ask.best(x, 4), 2 * 4 + 2 * 25, 0, 1, 3, 4, MISSING);
         x = withLines(8, 4, 4, 4);
-        Due.are("the last group costs nothing", best(x, 3), 0, 0, 2, MISSING);
+        Due.are("the last group costs nothing", Ask.best(x, 2), 0, 0, 2, MISSING);
         x = withLines(60, 1, 1, 1);
-        Due.are("all in one group", best(x, 2), 0, 0, MISSING);
+        Due.are("all in one group", Ask.best(x, 1), 0, 0, MISSING);
     }
 
     private static void breaksAndNotes() {
         BilingualSetter x = withLines(8, 2, 2, 2);
         x.setFlag(0, 1, 1);
-        Due.are("a break before the first pair", best(x, 2), 0, 0, MISSING);
+        Due.are("a break before the first pair", Ask.best(x, 1), 0, 0, MISSING);
         x.setFlag(1, 1, 1);
-        Due.are("a break", best(x, 3), 2 * 36, 0, 1, MISSING);
+        Due.are("a break", Ask.best(x, 2), 2 * 36, 0, 1, MISSING);
         x.addNote(0, 1, 0, 4);
-        Due.are("a note fills rows", best(x, 3), 36 + 1, 0, 1, MISSING);
+        Due.are("a note fills rows", Ask.best(x, 2), 36 + 1, 0, 1, MISSING);
         x.setFlag(1, 1, 0);
-        Due.are("without the break", best(x, 3), 36 + 1, 0, 1, MISSING);
+        Due.are("without the break", Ask.best(x, 2), 36 + 1, 0, 1, MISSING);
         x.removeNote(1, 0);
         x.addNote(1, 0, 0, 2);
         // 2+2 | 2 has 1 and 4 blank rows; 2 | 2+2 has 6 and 6.
-        Due.are("a note of the second pair", best(x, 3), 1 + 16, 0, 2, MISSING);
+        Due.are("a note of the second pair", Ask.best(x, 2), 1 + 16, 0, 2, MISSING);
         x.undo();
         Due.is("bestBreak first after a change", x.bestBreak(1), MISSING);
-        Due.are("undo", best(x, 2), 0, 0, MISSING);
+        Due.are("undo", Ask.best(x, 1), 0, 0, MISSING);
         x.set(1, 3);
-        Due.are("a gap of 3", best(x, 3), 1 + 1, 0, 2, MISSING);
+        Due.are("a gap of 3", Ask.best(x, 2), 1 + 1, 0, 2, MISSING);
         x.remove(2);
         x.remove(1);
-        Due.are("fewer pairs", best(x, 2), 0, 0, MISSING);
+        Due.are("fewer pairs", Ask.best(x, 1), 0, 0, MISSING);
     }
 
     private static void noDivision() {
         BilingualSetter x = withLines(8, 4, 9);
-        Due.are("a pair that does not fit", best(x, 1), MISSING, MISSING);
+        Due.are("a pair that does not fit", Ask.best(x, 0), MISSING, MISSING);
         Due.is("its negative group", x.bestBreak(-1), INVALID);
         Due.is("though the spreads are not overfull", x.isOverfull(0), 0);
         x = withLines(8, 3, 4);
         x.addNote(0, 0, 0, 5);
-        Due.are("a note that must be carried", best(x, 1), MISSING, MISSING);
+        Due.are("a note that must be carried", Ask.best(x, 0), MISSING, MISSING);
         // 3 and 2 of the 4 lines leave 1 + 2 rows for the note.
         Due.is("the spreads carry it", x.pageInfo(0, 0, 4), 3);
         x.setLines(0, 0, 2);
-        Due.are("a row less", best(x, 3), 25, 0, 1, MISSING);
+        Due.are("a row less", Ask.best(x, 2), 25, 0, 1, MISSING);
     }
 
     private static void alignedDivision() {
@@ -113,10 +104,10 @@ final class SearchTest {
         x.insert(0, 5, 1);
         x.insert(1, 1, 5);
         x.insert(2, 1, 1);
-        Due.are("not aligned", best(x, 3), 1 + 1, 0, 2, MISSING);
+        Due.are("not aligned", Ask.best(x, 2), 1 + 1, 0, 2, MISSING);
         x.set(5, 1);
         // 5+5 rows are too many; 6..11 for the second pair: it stands with the third one, 5 + 1 + 1.
-        Due.are("aligned", best(x, 3), 9 + 49, 0, 1, MISSING);
+        Due.are("aligned", Ask.best(x, 2), 9 + 49, 0, 1, MISSING);
     }
 
     private static void leastHeight() {

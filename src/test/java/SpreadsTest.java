@@ -43,59 +43,27 @@ final class SpreadsTest {
         return x;
     }
 
-    private static int[] segment(BilingualSetter x, int spread, int segment) {
-        int[] got = new int[8];
-        for (int what = 0; what < 8; what++) {
-            got[what] = x.segmentInfo(spread, segment, what);
-        }
-        return got;
-    }
-
-    private static int[] page(BilingualSetter x, int spread, int side) {
-        int[] got = new int[6];
-        for (int what = 0; what < 6; what++) {
-            got[what] = x.pageInfo(spread, side, what);
-        }
-        return got;
-    }
-
-    private static int[] shown(BilingualSetter x, int spread, int side, int rows) {
-        int[] got = new int[rows];
-        for (int row = 0; row < rows; row++) {
-            got[row] = x.shown(spread, side, row);
-        }
-        return got;
-    }
-
-    private static int[] segmentCounts(BilingualSetter x) {
-        int[] got = new int[x.spreadCount()];
-        for (int spread = 0; spread < got.length; spread++) {
-            got[spread] = x.segmentCount(spread);
-        }
-        return got;
-    }
-
     private static void wholePairsAndGap() {
         BilingualSetter x = new BilingualSetter();
         x.insert(0, 2, 4);
         x.insert(1, 3, 1);
         x.set(1, 2);
-        Due.are("segments", segmentCounts(x), 2);
-        Due.are("segment 0", segment(x, 0, 0), 0, 0, 2, 0, 4, 0, 0, 0);
-        Due.are("segment 1", segment(x, 0, 1), 1, 0, 3, 0, 1, 4, 6, 0);
-        Due.are("left page", page(x, 0, 0), 7, 0, 13, 0, 0, 0);
-        Due.are("right page", page(x, 0, 1), 7, 0, 13, 0, 0, 0);
+        Due.are("segments", Ask.segmentCounts(x), 2);
+        Due.are("segment 0", Ask.segment(x, 0, 0), 0, 0, 2, 0, 4, 0, 0, 0);
+        Due.are("segment 1", Ask.segment(x, 0, 1), 1, 0, 3, 0, 1, 4, 6, 0);
+        Due.are("left page", Ask.page(x, 0, 0), 7, 0, 13, 0, 0, 0);
+        Due.are("right page", Ask.page(x, 0, 1), 7, 0, 13, 0, 0, 0);
         x.set(0, 8);
         x.setLines(1, 0, 4);
-        Due.are("8 of 8 rows", segmentCounts(x), 2);
+        Due.are("8 of 8 rows", Ask.segmentCounts(x), 2);
         x.setLines(1, 0, 5);
         x.setFlag(1, 0, 1);
-        Due.are("9 of 8 rows on the left", segmentCounts(x), 1, 1);
+        Due.are("9 of 8 rows on the left", Ask.segmentCounts(x), 1, 1);
         x.setLines(1, 0, 1);
         x.setLines(1, 1, 3);
-        Due.are("9 of 8 rows on the right", segmentCounts(x), 1, 1);
+        Due.are("9 of 8 rows on the right", Ask.segmentCounts(x), 1, 1);
         x.set(1, 0);
-        Due.are("no gap", segmentCounts(x), 2);
+        Due.are("no gap", Ask.segmentCounts(x), 2);
     }
 
     private static void alignedStarts() {
@@ -104,11 +72,11 @@ final class SpreadsTest {
         x.insert(1, 3, 1);
         x.insert(2, 1, 1);
         x.set(5, 1);
-        Due.are("segment 1", segment(x, 0, 1), 1, 0, 3, 0, 1, 5, 5, 0);
-        Due.are("segment 2", segment(x, 0, 2), 2, 0, 1, 0, 1, 9, 9, 0);
+        Due.are("segment 1", Ask.segment(x, 0, 1), 1, 0, 3, 0, 1, 5, 5, 0);
+        Due.are("segment 2", Ask.segment(x, 0, 2), 2, 0, 1, 0, 1, 9, 9, 0);
         x.remove(2);
-        Due.are("left page", page(x, 0, 0), 8, 0, 12, 0, 0, 0);
-        Due.are("right page", page(x, 0, 1), 6, 0, 14, 0, 0, 0);
+        Due.are("left page", Ask.page(x, 0, 0), 8, 0, 12, 0, 0, 0);
+        Due.are("right page", Ask.page(x, 0, 1), 6, 0, 14, 0, 0, 0);
     }
 
     private static void breakBefore() {
@@ -117,31 +85,31 @@ final class SpreadsTest {
         x.insert(1, 1, 1);
         x.insert(2, 1, 1);
         x.setFlag(0, 1, 1);
-        Due.are("a break before the first pair", segmentCounts(x), 3);
+        Due.are("a break before the first pair", Ask.segmentCounts(x), 3);
         x.setFlag(2, 1, 1);
-        Due.are("a break before the last pair", segmentCounts(x), 2, 1);
+        Due.are("a break before the last pair", Ask.segmentCounts(x), 2, 1);
         x.setLines(1, 0, 30);
         x.setFlag(1, 1, 1);
         x.setLines(1, 1, 30);
-        Due.are("a split pair with a break", segmentCounts(x), 1, 1, 1, 1);
-        Due.are("its rest", segment(x, 2, 0), 1, 20, 10, 20, 10, 0, 0, 0);
+        Due.are("a split pair with a break", Ask.segmentCounts(x), 1, 1, 1, 1);
+        Due.are("its rest", Ask.segment(x, 2, 0), 1, 20, 10, 20, 10, 0, 0, 0);
     }
 
     private static void splitByProportion() {
         BilingualSetter x = withHeight(8);
         x.insert(0, 10, 5);
         // x = 8 and 7 give y = 4 and leave 1 right line; x = 6 gives 3 and leaves 2.
-        Due.are("segments", segmentCounts(x), 1, 1);
-        Due.are("first part", segment(x, 0, 0), 0, 0, 6, 0, 3, 0, 0, 1);
-        Due.are("second part", segment(x, 1, 0), 0, 6, 4, 3, 2, 0, 0, 0);
+        Due.are("segments", Ask.segmentCounts(x), 1, 1);
+        Due.are("first part", Ask.segment(x, 0, 0), 0, 0, 6, 0, 3, 0, 0, 1);
+        Due.are("second part", Ask.segment(x, 1, 0), 0, 6, 4, 3, 2, 0, 0, 0);
         x.setLines(0, 0, 30);
         x.setLines(0, 1, 20);
         // 30:20 gives 8:5, then 22:15 gives 8:5, then 14:10 gives 8:6, and 6:4 is left.
-        Due.are("four parts", segmentCounts(x), 1, 1, 1, 1);
-        Due.are("part 0", segment(x, 0, 0), 0, 0, 8, 0, 5, 0, 0, 1);
-        Due.are("part 1", segment(x, 1, 0), 0, 8, 8, 5, 5, 0, 0, 1);
-        Due.are("part 2", segment(x, 2, 0), 0, 16, 8, 10, 6, 0, 0, 1);
-        Due.are("part 3", segment(x, 3, 0), 0, 24, 6, 16, 4, 0, 0, 0);
+        Due.are("four parts", Ask.segmentCounts(x), 1, 1, 1, 1);
+        Due.are("part 0", Ask.segment(x, 0, 0), 0, 0, 8, 0, 5, 0, 0, 1);
+        Due.are("part 1", Ask.segment(x, 1, 0), 0, 8, 8, 5, 5, 0, 0, 1);
+        Due.are("part 2", Ask.segment(x, 2, 0), 0, 16, 8, 10, 6, 0, 0, 1);
+        Due.are("part 3", Ask.segment(x, 3, 0), 0, 24, 6, 16, 4, 0, 0, 0);
     }
 
     private static void splitRoundsHalvesUp() {
@@ -149,28 +117,28 @@ final class SpreadsTest {
         x.set(3, 1);
         x.insert(0, 4, 30);
         // y = (60 + 4) / 8 = 8 for 7.5, and then (44 + 3) / 6 = 7 for 7.33.
-        Due.are("part 0", segment(x, 0, 0), 0, 0, 1, 0, 8, 0, 0, 1);
-        Due.are("part 1", segment(x, 1, 0), 0, 1, 1, 8, 7, 0, 0, 1);
+        Due.are("part 0", Ask.segment(x, 0, 0), 0, 0, 1, 0, 8, 0, 0, 1);
+        Due.are("part 1", Ask.segment(x, 1, 0), 0, 1, 1, 8, 7, 0, 0, 1);
     }
 
     private static void splitKeepsLeast() {
         BilingualSetter x = withHeight(8);
         x.insert(0, 9, 9);
         x.set(3, 1);
-        Due.are("least 1", segment(x, 0, 0), 0, 0, 8, 0, 8, 0, 0, 1);
+        Due.are("least 1", Ask.segment(x, 0, 0), 0, 0, 8, 0, 8, 0, 0, 1);
         x.set(3, 2);
-        Due.are("least 2", segment(x, 0, 0), 0, 0, 7, 0, 7, 0, 0, 1);
+        Due.are("least 2", Ask.segment(x, 0, 0), 0, 0, 7, 0, 7, 0, 0, 1);
         x.set(3, 4);
-        Due.are("least 4", segment(x, 0, 0), 0, 0, 5, 0, 5, 0, 0, 1);
+        Due.are("least 4", Ask.segment(x, 0, 0), 0, 0, 5, 0, 5, 0, 0, 1);
         x.setLines(0, 1, 7);
-        Due.are("7 right lines are too few", segmentCounts(x), 1);
+        Due.are("7 right lines are too few", Ask.segmentCounts(x), 1);
         Due.is("so it is overfull", x.isOverfull(0), 1);
         x.setLines(0, 1, 8);
         // x = 5 gives y = 4, which leaves 4 and 4.
-        Due.are("8 right lines are enough", segment(x, 0, 0), 0, 0, 5, 0, 4, 0, 0, 1);
+        Due.are("8 right lines are enough", Ask.segment(x, 0, 0), 0, 0, 5, 0, 4, 0, 0, 1);
         x.setLines(0, 0, 7);
         x.setLines(0, 1, 9);
-        Due.are("7 left lines are too few", segmentCounts(x), 1);
+        Due.are("7 left lines are too few", Ask.segmentCounts(x), 1);
     }
 
     private static void splitBehindAnotherSegment() {
@@ -178,14 +146,14 @@ final class SpreadsTest {
         x.insert(0, 4, 4);
         x.insert(1, 6, 6);
         x.insert(2, 2, 2);
-        Due.are("segments", segmentCounts(x), 2, 2);
-        Due.are("behind the first pair", segment(x, 0, 1), 1, 0, 3, 0, 3, 5, 5, 1);
-        Due.are("the rest", segment(x, 1, 0), 1, 3, 3, 3, 3, 0, 0, 0);
-        Due.are("goes on behind the rest", segment(x, 1, 1), 2, 0, 2, 0, 2, 4, 4, 0);
+        Due.are("segments", Ask.segmentCounts(x), 2, 2);
+        Due.are("behind the first pair", Ask.segment(x, 0, 1), 1, 0, 3, 0, 3, 5, 5, 1);
+        Due.are("the rest", Ask.segment(x, 1, 0), 1, 3, 3, 3, 3, 0, 0, 0);
+        Due.are("goes on behind the rest", Ask.segment(x, 1, 1), 2, 0, 2, 0, 2, 4, 4, 0);
         x.setLines(0, 0, 6);
-        Due.are("one row is too little for least 2", segmentCounts(x), 1, 1, 1);
+        Due.are("one row is too little for least 2", Ask.segmentCounts(x), 1, 1, 1);
         x.set(3, 1);
-        Due.are("and enough for least 1", segment(x, 0, 1), 1, 0, 1, 0, 1, 7, 5, 1);
+        Due.are("and enough for least 1", Ask.segment(x, 0, 1), 1, 0, 1, 0, 1, 7, 5, 1);
     }
 
     private static void splitTriesShorterParts() {
@@ -193,10 +161,10 @@ final class SpreadsTest {
         x.insert(0, 20, 20);
         x.addNote(0, 1, 8, 7);
         // Behind 9 lines or more the note takes 1 + 7 - 3 rows at the least: 9 + 5 are too many.
-        Due.are("the part ends before the note", segment(x, 0, 0), 0, 0, 8, 0, 8, 0, 0, 1);
-        Due.are("the part with the note", segment(x, 1, 0), 0, 8, 7, 8, 7, 0, 0, 1);
-        Due.are("its page", page(x, 1, 1), 7, 5, 0, 0, 3, 1);
-        Due.are("the last page", page(x, 2, 1), 5, 4, 3, 3, 0, 0);
+        Due.are("the part ends before the note", Ask.segment(x, 0, 0), 0, 0, 8, 0, 8, 0, 0, 1);
+        Due.are("the part with the note", Ask.segment(x, 1, 0), 0, 8, 7, 8, 7, 0, 0, 1);
+        Due.are("its page", Ask.page(x, 1, 1), 7, 5, 0, 0, 3, 1);
+        Due.are("the last page", Ask.page(x, 2, 1), 5, 4, 3, 3, 0, 0);
     }
 
     private static void keptPairs() {
@@ -204,8 +172,8 @@ final class SpreadsTest {
         x.insert(0, 4, 4);
         x.insert(1, 6, 6);
         x.setFlag(1, 0, 1);
-        Due.are("a kept pair is not split", segmentCounts(x), 1, 1);
-        Due.are("it stands on the next spread", segment(x, 1, 0), 1, 0, 6, 0, 6, 0, 0, 0);
+        Due.are("a kept pair is not split", Ask.segmentCounts(x), 1, 1);
+        Due.are("it stands on the next spread", Ask.segment(x, 1, 0), 1, 0, 6, 0, 6, 0, 0, 0);
         Due.is("and is not overfull", x.isOverfull(1), 0);
     }
 
@@ -214,12 +182,12 @@ final class SpreadsTest {
         x.insert(0, 9, 2);
         x.insert(1, 1, 1);
         x.setFlag(0, 0, 1);
-        Due.are("an overfull spread ends", segmentCounts(x), 1, 1);
+        Due.are("an overfull spread ends", Ask.segmentCounts(x), 1, 1);
         Due.are("overfull", new int[] {x.isOverfull(0), x.isOverfull(1)}, 1, 0);
-        Due.are("left page", page(x, 0, 0), 9, 0, 0, 0, 0, 0);
-        Due.are("right page", page(x, 0, 1), 2, 0, 6, 0, 0, 0);
+        Due.are("left page", Ask.page(x, 0, 0), 9, 0, 0, 0, 0, 0);
+        Due.are("right page", Ask.page(x, 0, 1), 2, 0, 6, 0, 0, 0);
         x.set(0, 9);
-        Due.are("with a row more", segmentCounts(x), 1, 1);
+        Due.are("with a row more", Ask.segmentCounts(x), 1, 1);
         Due.is("it is not overfull", x.isOverfull(0), 0);
     }
 
@@ -229,15 +197,16 @@ final class SpreadsTest {
         x.setFlag(0, 0, 1);
         x.addNote(0, 0, 8, 10);
         x.addNote(0, 1, 2, 5);
-        Due.are("left page", page(x, 0, 0), 9, 8, 0, 0, 3, 1);
-        Due.are("right page", page(x, 0, 1), 3, 5, 0, 0, 1, 1);
-        Due.are("rows behind the page's end", shown(x, 0, 0, 20), 10000, 10001, 10002, 10003, 10004, 10005, 10006, 10007, 10008,
+        Due.are("left page", Ask.page(x, 0, 0), 9, 8, 0, 0, 3, 1);
+        Due.are("right page", Ask.page(x, 0, 1), 3, 5, 0, 0, 1, 1);
+        Due.are("rows behind the page's end", Ask.shown(x, 0, 0, 20), 10000, 10001, 10002, 10003, 10004, 10005, 10006, 10007,
+                10008,
                 RULE, 20000, 20001, 20002, 20003, 20004, 20005, 20006, 0, 0, 0);
-        Due.are("one more spread", segmentCounts(x), 1, 0);
-        Due.are("its left page", page(x, 1, 0), 0, 4, 4, 3, 0, 0);
-        Due.are("its right page", page(x, 1, 1), 0, 2, 6, 1, 0, 0);
-        Due.are("its left rows", shown(x, 1, 0, 9), 0, 0, 0, 0, RULE, 20007, 20008, 20009, 0);
-        Due.are("its right rows", shown(x, 1, 1, 9), 0, 0, 0, 0, 0, 0, RULE, 20004, 0);
+        Due.are("one more spread", Ask.segmentCounts(x), 1, 0);
+        Due.are("its left page", Ask.page(x, 1, 0), 0, 4, 4, 3, 0, 0);
+        Due.are("its right page", Ask.page(x, 1, 1), 0, 2, 6, 1, 0, 0);
+        Due.are("its left rows", Ask.shown(x, 1, 0, 9), 0, 0, 0, 0, RULE, 20007, 20008, 20009, 0);
+        Due.are("its right rows", Ask.shown(x, 1, 1, 9), 0, 0, 0, 0, 0, 0, RULE, 20004, 0);
         Due.is("it is not overfull", x.isOverfull(1), 0);
     }
 
@@ -246,13 +215,13 @@ final class SpreadsTest {
         x.insert(0, 5, 5);
         x.addNote(0, 0, 4, 6);
         // 5 + 1 + 6 - 3 rows are too many; behind 3 lines, the last 2 have room for 5 lines of the note.
-        Due.are("segments", segmentCounts(x), 1, 1, 0);
-        Due.are("page 0", page(x, 0, 0), 3, 0, 5, 0, 0, 0);
-        Due.are("page 1", page(x, 1, 0), 2, 6, 0, 0, 1, 1);
-        Due.are("page 2", page(x, 2, 0), 0, 2, 6, 1, 0, 0);
-        Due.are("rows of page 1", shown(x, 1, 0, 9), 10003, 10004, RULE, 20000, 20001, 20002, 20003, 20004, 0);
-        Due.are("rows of page 2", shown(x, 2, 0, 9), 0, 0, 0, 0, 0, 0, RULE, 20005, 0);
-        Due.are("right page 2 is empty", page(x, 2, 1), 0, 0, 8, 0, 0, 0);
+        Due.are("segments", Ask.segmentCounts(x), 1, 1, 0);
+        Due.are("page 0", Ask.page(x, 0, 0), 3, 0, 5, 0, 0, 0);
+        Due.are("page 1", Ask.page(x, 1, 0), 2, 6, 0, 0, 1, 1);
+        Due.are("page 2", Ask.page(x, 2, 0), 0, 2, 6, 1, 0, 0);
+        Due.are("rows of page 1", Ask.shown(x, 1, 0, 9), 10003, 10004, RULE, 20000, 20001, 20002, 20003, 20004, 0);
+        Due.are("rows of page 2", Ask.shown(x, 2, 0, 9), 0, 0, 0, 0, 0, 0, RULE, 20005, 0);
+        Due.are("right page 2 is empty", Ask.page(x, 2, 1), 0, 0, 8, 0, 0, 0);
         x.set(4, 0);
         Due.are("without carrying it does not fit", new int[] {x.isOverfull(0), x.isOverfull(1), x.spreadCount()}, 0, 1, 2);
         x.set(4, 1);
@@ -268,28 +237,29 @@ final class SpreadsTest {
         x.addNote(1, 1, 0, 1);
         x.setFlag(1, 0, 1);
         // 4 + 1 + 3 on the first right page, 3 + 1 carried rows on the second: 5 + 5 rows are too many.
-        Due.are("right page 0", page(x, 0, 1), 4, 4, 0, 0, 3, 1);
-        Due.are("right page 1", page(x, 1, 1), 5, 5, 0, 3, 0, 1);
+        Due.are("right page 0", Ask.page(x, 0, 1), 4, 4, 0, 0, 3, 1);
+        Due.are("right page 1", Ask.page(x, 1, 1), 5, 5, 0, 3, 0, 1);
         Due.are("overfull", new int[] {x.isOverfull(0), x.isOverfull(1), x.isOverfull(2)}, 0, 1, 0);
-        Due.are("rows of right page 1", shown(x, 1, 1, 11), 10100, 10101, 10102, 10103, 10104, RULE, 20003, 20004, 20005, 20100, 0);
-        Due.are("segments", segmentCounts(x), 1, 1, 1);
+        Due.are("rows of right page 1", Ask.shown(x, 1, 1, 11), 10100, 10101, 10102, 10103, 10104, RULE, 20003, 20004, 20005,
+                20100, 0);
+        Due.are("segments", Ask.segmentCounts(x), 1, 1, 1);
     }
 
     private static void leastIsCarried() {
         BilingualSetter x = withHeight(10);
         x.insert(0, 4, 4);
         x.addNote(0, 0, 3, 5);
-        Due.are("all stays", page(x, 0, 0), 4, 6, 0, 0, 0, 1);
+        Due.are("all stays", Ask.page(x, 0, 0), 4, 6, 0, 0, 0, 1);
         x.set(2, 2);
-        Due.are("one line is carried", page(x, 0, 0), 4, 6, 0, 0, 1, 1);
+        Due.are("one line is carried", Ask.page(x, 0, 0), 4, 6, 0, 0, 1, 1);
         x.removeNote(0, 0);
         x.addNote(0, 0, 3, 2);
         x.set(0, 8);
         x.setLines(0, 0, 5);
-        Due.are("its first line stays", page(x, 0, 0), 5, 3, 0, 0, 1, 1);
+        Due.are("its first line stays", Ask.page(x, 0, 0), 5, 3, 0, 0, 1, 1);
         x.setLines(0, 0, 6);
         x.setFlag(0, 0, 1);
-        Due.are("even if it does not fit", page(x, 0, 0), 6, 3, 0, 0, 1, 1);
+        Due.are("even if it does not fit", Ask.page(x, 0, 0), 6, 3, 0, 0, 1, 1);
         Due.is("then it is overfull", x.isOverfull(0), 1);
     }
 
@@ -299,11 +269,11 @@ final class SpreadsTest {
         x.setFlag(0, 0, 1);
         x.addNote(0, 0, 1, 6);
         x.addNote(0, 0, 2, 1);
-        Due.are("the last one has one line", page(x, 0, 0), 4, 8, 0, 0, 0, 2);
+        Due.are("the last one has one line", Ask.page(x, 0, 0), 4, 8, 0, 0, 0, 2);
         Due.is("it is overfull", x.isOverfull(0), 1);
         x.removeNote(0, 1);
         x.addNote(0, 0, 1, 4);
-        Due.are("the second one of a line is the last one", page(x, 0, 0), 4, 8, 0, 0, 3, 2);
+        Due.are("the second one of a line is the last one", Ask.page(x, 0, 0), 4, 8, 0, 0, 3, 2);
         Due.is("the carried line", x.shown(1, 0, 9), 20103);
     }
 
@@ -314,9 +284,9 @@ final class SpreadsTest {
         x.insert(1, 5, 5);
         x.addNote(0, 0, 1, 10);
         x.setFlag(1, 0, 1);
-        Due.are("page 0", page(x, 0, 0), 2, 6, 0, 0, 5, 1);
-        Due.are("what was carried to a page stays there", page(x, 1, 0), 5, 6, 0, 5, 0, 0);
-        Due.are("segments", segmentCounts(x), 1, 1);
+        Due.are("page 0", Ask.page(x, 0, 0), 2, 6, 0, 0, 5, 1);
+        Due.are("what was carried to a page stays there", Ask.page(x, 1, 0), 5, 6, 0, 5, 0, 0);
+        Due.are("segments", Ask.segmentCounts(x), 1, 1);
     }
 
     private static void rowsOfTheRule() {
@@ -325,10 +295,10 @@ final class SpreadsTest {
         x.addNote(0, 0, 0, 1);
         x.addNote(0, 0, 0, 2);
         x.set(2, 2);
-        Due.are("two rows", shown(x, 0, 0, 9), 10000, 10001, 0, RULE, RULE, 20000, 20100, 20101, 0);
-        Due.are("no notes, no rule", shown(x, 0, 1, 9), 10000, 10001, 0, 0, 0, 0, 0, 0, 0);
+        Due.are("two rows", Ask.shown(x, 0, 0, 9), 10000, 10001, 0, RULE, RULE, 20000, 20100, 20101, 0);
+        Due.are("no notes, no rule", Ask.shown(x, 0, 1, 9), 10000, 10001, 0, 0, 0, 0, 0, 0, 0);
         x.set(2, 0);
-        Due.are("no rule", shown(x, 0, 0, 9), 10000, 10001, 0, 0, 0, 20000, 20100, 20101, 0);
+        Due.are("no rule", Ask.shown(x, 0, 0, 9), 10000, 10001, 0, 0, 0, 20000, 20100, 20101, 0);
         Due.is("note rows without a rule", x.pageInfo(0, 0, 1), 3);
     }
 
@@ -406,14 +376,17 @@ final class SpreadsTest {
         // 4 rows are left on the left: 4 lines and (40 + 10) / 20 = 2; then 6 and 3.
         Due.are("spreadOf, left", new int[] {x.spreadOf(0, 0, 2), x.spreadOf(1, 0, 0), x.spreadOf(1, 0, 3), x.spreadOf(1, 0, 4),
             x.spreadOf(1, 0, 9)}, 0, 0, 0, 1, 1);
-        Due.are("spreadOf, right", new int[] {x.spreadOf(0, 1, 1), x.spreadOf(1, 1, 1), x.spreadOf(1, 1, 2), x.spreadOf(1, 1, 4)},
+        Due.are("spreadOf, right", new int[] {x.spreadOf(0, 1, 1), x.spreadOf(1, 1, 1), x.spreadOf(1, 1, 2), x.spreadOf(1, 1,
+                4)},
                 0, 0, 1, 1);
-        Due.are("rowOf, left", new int[] {x.rowOf(0, 0, 2), x.rowOf(1, 0, 0), x.rowOf(1, 0, 3), x.rowOf(1, 0, 4), x.rowOf(1, 0, 9)},
+        Due.are("rowOf, left", new int[] {x.rowOf(0, 0, 2), x.rowOf(1, 0, 0), x.rowOf(1, 0, 3), x.rowOf(1, 0, 4), x.rowOf(1, 0,
+                9)},
                 2, 4, 7, 0, 5);
         x.setLines(0, 0, 4);
         Due.is("rowOf first after a change", x.rowOf(1, 0, 4), 1);
         x.setLines(0, 0, 3);
-        Due.are("rowOf, right", new int[] {x.rowOf(0, 1, 1), x.rowOf(1, 1, 0), x.rowOf(1, 1, 1), x.rowOf(1, 1, 2), x.rowOf(1, 1, 4)},
+        Due.are("rowOf, right", new int[] {x.rowOf(0, 1, 1), x.rowOf(1, 1, 0), x.rowOf(1, 1, 1), x.rowOf(1, 1, 2), x.rowOf(1,
+                1, 4)},
                 1, 3, 4, 0, 2);
         Due.are("spreadOf's errors", new int[] {x.spreadOf(2, 0, 0), x.spreadOf(-1, 0, 0), x.spreadOf(0, 2, 0),
             x.spreadOf(0, -1, 0), x.spreadOf(0, 0, 3), x.spreadOf(0, 1, 2), x.spreadOf(0, 0, -1)},
@@ -429,8 +402,8 @@ final class SpreadsTest {
         x.insert(1, 2, 3);
         x.addNote(1, 1, 0, 1);
         x.addNote(0, 1, 0, 1);
-        Due.are("left", shown(x, 0, 0, 9), 10000, 10001, 0, 10100, 10101, 0, 0, 0, 0);
-        Due.are("right", shown(x, 0, 1, 9), 10000, 0, 10100, 10101, 10102, RULE, 20000, 20100, 0);
+        Due.are("left", Ask.shown(x, 0, 0, 9), 10000, 10001, 0, 10100, 10101, 0, 0, 0, 0);
+        Due.are("right", Ask.shown(x, 0, 1, 9), 10000, 0, 10100, 10101, 10102, RULE, 20000, 20100, 0);
         Due.are("shown's errors", new int[] {x.shown(0, 0, 99), x.shown(0, 0, 100), x.shown(0, 0, -1), x.shown(1, 0, 0),
             x.shown(-1, 0, 0), x.shown(0, 2, 0), x.shown(0, -1, 0)},
                 0, INVALID, INVALID, INVALID, INVALID, INVALID, INVALID);
@@ -440,7 +413,8 @@ final class SpreadsTest {
         x.insert(2, 1, 1);
         x.setFlag(1, 0, 1);
         x.setFlag(1, 1, 1);
-        Due.are("many rows", new int[] {x.shown(1, 0, 2), x.shown(1, 0, 3), x.shown(1, 0, 89), x.shown(1, 0, 90), x.shown(2, 0, 7)},
+        Due.are("many rows", new int[] {x.shown(1, 0, 2), x.shown(1, 0, 3), x.shown(1, 0, 89), x.shown(1, 0, 90), x.shown(2, 0,
+                7)},
                 RULE, 20000, 20806, 0, 20809);
     }
 

@@ -26,14 +26,6 @@ final class TextTest {
         Due.end("TextTest");
     }
 
-    private static int[] pair(BilingualSetter x, int pair) {
-        return new int[] {x.pairInfo(pair, 0), x.pairInfo(pair, 1), x.pairInfo(pair, 2), x.pairInfo(pair, 3)};
-    }
-
-    private static int[] note(BilingualSetter x, int side, int note) {
-        return new int[] {x.noteInfo(side, note, 0), x.noteInfo(side, note, 1), x.noteInfo(side, note, 2)};
-    }
-
     private static void promise1NewObject() {
         Due.are("constants", new int[] {BilingualSetter.INVALID_ARGUMENT, BilingualSetter.NOT_POSSIBLE,
             BilingualSetter.LIMIT_REACHED, BilingualSetter.NOT_FOUND}, INVALID, IMPOSSIBLE, LIMIT, MISSING);
@@ -54,9 +46,9 @@ final class TextTest {
         Due.is("insert(0, 1, 30)", x.insert(0, 1, 30), 1);
         Due.is("insert(1, 30, 1) at the end", x.insert(1, 30, 1), 2);
         Due.is("insert(1, 7, 8) between", x.insert(1, 7, 8), 3);
-        Due.are("pair 0", pair(x, 0), 1, 30, 0, 0);
-        Due.are("pair 1", pair(x, 1), 7, 8, 0, 0);
-        Due.are("pair 2", pair(x, 2), 30, 1, 0, 0);
+        Due.are("pair 0", Ask.pair(x, 0), 1, 30, 0, 0);
+        Due.are("pair 1", Ask.pair(x, 1), 7, 8, 0, 0);
+        Due.are("pair 2", Ask.pair(x, 2), 30, 1, 0, 0);
         Due.are("insert out of range", new int[] {x.insert(-1, 5, 5), x.insert(4, 5, 5), x.insert(0, 0, 5), x.insert(0, 31, 5),
             x.insert(0, 5, 0), x.insert(0, 5, 31), x.insert(FAR, 5, 5)},
                 INVALID, INVALID, INVALID, INVALID, INVALID, INVALID, INVALID);
@@ -65,22 +57,22 @@ final class TextTest {
         x.addNote(1, 0, 6, 4);
         x.addNote(0, 1, 0, 5);
         x.insert(1, 2, 3);
-        Due.are("new pair 1 has no flags", pair(x, 1), 2, 3, 0, 0);
-        Due.are("old pair 1 keeps them", pair(x, 2), 7, 8, 1, 1);
-        Due.are("its note moves with it", note(x, 0, 0), 2, 6, 4);
-        Due.are("the note before stays", note(x, 1, 0), 0, 0, 5);
+        Due.are("new pair 1 has no flags", Ask.pair(x, 1), 2, 3, 0, 0);
+        Due.are("old pair 1 keeps them", Ask.pair(x, 2), 7, 8, 1, 1);
+        Due.are("its note moves with it", Ask.note(x, 0, 0), 2, 6, 4);
+        Due.are("the note before stays", Ask.note(x, 1, 0), 0, 0, 5);
         x.insert(0, 6, 6);
         Due.are("both notes move", new int[] {x.noteInfo(0, 0, 0), x.noteInfo(1, 0, 0)}, 3, 1);
         x.addNote(1, 0, 0, 1);
         x.insert(1, 6, 6);
-        Due.are("a note of line 0 moves", note(x, 0, 0), 2, 0, 1);
+        Due.are("a note of line 0 moves", Ask.note(x, 0, 0), 2, 0, 1);
         for (int count = 7; count <= 20; count++) {
             Due.is("insert up to 20", x.insert(0, 2, 2), count);
         }
         Due.is("insert a 21st", x.insert(20, 2, 2), LIMIT);
         Due.is("insert a 21st out of range", x.insert(21, 2, 2), INVALID);
         Due.is("still 20", x.pairCount(), 20);
-        Due.are("the last of 20", pair(x, 19), 30, 1, 0, 0);
+        Due.are("the last of 20", Ask.pair(x, 19), 30, 1, 0, 0);
     }
 
     private static void promise3Remove() {
@@ -99,12 +91,12 @@ final class TextTest {
         x.addNote(2, 0, 0, 6);
         x.addNote(2, 1, 0, 7);
         Due.is("remove(1)", x.remove(1), 2);
-        Due.are("pair 1 is the former 2", pair(x, 1), 6, 7, 0, 1);
+        Due.are("pair 1 is the former 2", Ask.pair(x, 1), 6, 7, 0, 1);
         Due.are("notes that are left", new int[] {x.noteCount(0), x.noteCount(1)}, 3, 1);
-        Due.are("note 0", note(x, 0, 0), 0, 1, 1);
-        Due.are("note 1", note(x, 0, 1), 1, 0, 6);
-        Due.are("note 2", note(x, 0, 2), 1, 3, 4);
-        Due.are("right note", note(x, 1, 0), 1, 0, 7);
+        Due.are("note 0", Ask.note(x, 0, 0), 0, 1, 1);
+        Due.are("note 1", Ask.note(x, 0, 1), 1, 0, 6);
+        Due.are("note 2", Ask.note(x, 0, 2), 1, 3, 4);
+        Due.are("right note", Ask.note(x, 1, 0), 1, 0, 7);
         Due.are("remove the others", new int[] {x.remove(1), x.remove(0), x.remove(0)}, 1, 0, INVALID);
         Due.are("all is gone", new int[] {x.noteCount(0), x.spreadCount()}, 0, 0);
     }
@@ -113,7 +105,7 @@ final class TextTest {
         BilingualSetter x = new BilingualSetter();
         x.insert(0, 5, 6);
         Due.are("setLines", new int[] {x.setLines(0, 0, 30), x.setLines(0, 1, 1), x.setLines(0, 0, 30)}, 5, 6, 30);
-        Due.are("pair", pair(x, 0), 30, 1, 0, 0);
+        Due.are("pair", Ask.pair(x, 0), 30, 1, 0, 0);
         Due.are("setLines out of range", new int[] {x.setLines(1, 0, 5), x.setLines(-1, 0, 5), x.setLines(0, 2, 5),
             x.setLines(0, -1, 5), x.setLines(0, 0, 0), x.setLines(0, 0, 31)},
                 INVALID, INVALID, INVALID, INVALID, INVALID, INVALID);
@@ -138,10 +130,10 @@ final class TextTest {
         x.insert(0, 5, 6);
         Due.are("kept", new int[] {x.setFlag(0, 0, 1), x.setFlag(0, 0, 1), x.setFlag(0, 0, 0), x.setFlag(0, 0, 0)}, 0, 1, 1, 0);
         Due.is("break", x.setFlag(0, 1, 1), 0);
-        Due.are("pair", pair(x, 0), 5, 6, 0, 1);
+        Due.are("pair", Ask.pair(x, 0), 5, 6, 0, 1);
         x.setFlag(0, 0, 1);
         Due.is("break off", x.setFlag(0, 1, 0), 1);
-        Due.are("pair", pair(x, 0), 5, 6, 1, 0);
+        Due.are("pair", Ask.pair(x, 0), 5, 6, 1, 0);
         Due.are("setFlag out of range", new int[] {x.setFlag(1, 0, 1), x.setFlag(-1, 0, 1), x.setFlag(0, 2, 1),
             x.setFlag(0, -1, 1), x.setFlag(0, 0, 2), x.setFlag(0, 0, -1)},
                 INVALID, INVALID, INVALID, INVALID, INVALID, INVALID);
@@ -158,11 +150,11 @@ final class TextTest {
         Due.is("the same line again", x.addNote(1, 0, 2, 4), 2);
         Due.is("an earlier pair, a later line", x.addNote(0, 0, 4, 5), 0);
         Due.is("number of notes", x.noteCount(0), 5);
-        Due.are("note 0", note(x, 0, 0), 0, 4, 5);
-        Due.are("note 1", note(x, 0, 1), 1, 1, 2);
-        Due.are("note 2", note(x, 0, 2), 1, 2, 10);
-        Due.are("note 3", note(x, 0, 3), 1, 2, 4);
-        Due.are("note 4", note(x, 0, 4), 1, 4, 3);
+        Due.are("note 0", Ask.note(x, 0, 0), 0, 4, 5);
+        Due.are("note 1", Ask.note(x, 0, 1), 1, 1, 2);
+        Due.are("note 2", Ask.note(x, 0, 2), 1, 2, 10);
+        Due.are("note 3", Ask.note(x, 0, 3), 1, 2, 4);
+        Due.are("note 4", Ask.note(x, 0, 4), 1, 4, 3);
     }
 
     private static void promise6ErrorsOfAddNote() {
@@ -193,9 +185,9 @@ final class TextTest {
             x.removeNote(0, 3), x.removeNote(1, 1), x.removeNote(2, 9), x.removeNote(0, FAR)},
                 INVALID, INVALID, INVALID, MISSING, MISSING, INVALID, MISSING);
         Due.is("removeNote(0, 1)", x.removeNote(0, 1), 2);
-        Due.are("note 0", note(x, 0, 0), 0, 1, 1);
-        Due.are("note 1", note(x, 0, 1), 0, 3, 3);
-        Due.are("the other side", note(x, 1, 0), 0, 3, 4);
+        Due.are("note 0", Ask.note(x, 0, 0), 0, 1, 1);
+        Due.are("note 1", Ask.note(x, 0, 1), 0, 3, 3);
+        Due.are("the other side", Ask.note(x, 1, 0), 0, 3, 4);
         Due.are("the last ones", new int[] {x.removeNote(0, 1), x.removeNote(0, 0), x.removeNote(0, 0)}, 1, 0, MISSING);
     }
 
@@ -223,10 +215,10 @@ final class TextTest {
         }
         Due.are("six states are kept", new int[] {x.undo(), x.undo(), x.undo(), x.undo(), x.undo(), x.undo(), x.undo()},
                 5, 4, 3, 2, 1, 0, IMPOSSIBLE);
-        Due.are("the oldest one is back", pair(x, 0), 2, 2, 0, 0);
+        Due.are("the oldest one is back", Ask.pair(x, 0), 2, 2, 0, 0);
         x.setLines(0, 1, 9);
         Due.is("undo after that", x.undo(), 0);
-        Due.are("pair", pair(x, 0), 2, 2, 0, 0);
+        Due.are("pair", Ask.pair(x, 0), 2, 2, 0, 0);
     }
 
     private static void promise9WhatIsAChange() {
@@ -249,7 +241,7 @@ final class TextTest {
         x.remove(0);
         Due.are("undo remove, setFlag, removeNote", new int[] {x.undo(), x.pairInfo(0, 3), x.undo(), x.pairInfo(0, 3),
             x.noteCount(0), x.undo(), x.noteCount(0)}, 4, 1, 3, 0, 0, 2, 1);
-        Due.are("the note is back", note(x, 0, 0), 0, 3, 7);
+        Due.are("the note is back", Ask.note(x, 0, 0), 0, 3, 7);
         x.addNote(0, 1, 5, 3);
         x.addNote(0, 1, 0, 2);
         x.removeNote(1, 1);
@@ -267,8 +259,8 @@ final class TextTest {
         x.setFlag(1, 0, 1);
         x.setFlag(0, 1, 1);
         Due.is("two pairs", x.pairCount(), 2);
-        Due.are("pair 0", pair(x, 0), 11, 12, 0, 1);
-        Due.are("pair 1", pair(x, 1), 13, 14, 1, 0);
+        Due.are("pair 0", Ask.pair(x, 0), 11, 12, 0, 1);
+        Due.are("pair 1", Ask.pair(x, 1), 13, 14, 1, 0);
         Due.are("pairInfo out of range", new int[] {x.pairInfo(-1, 0), x.pairInfo(2, 0), x.pairInfo(0, -1), x.pairInfo(0, 4),
             x.pairInfo(FAR, FAR)}, INVALID, INVALID, INVALID, INVALID, INVALID);
     }
@@ -277,8 +269,9 @@ final class TextTest {
         BilingualSetter x = new BilingualSetter();
         x.insert(0, 11, 12);
         x.addNote(0, 1, 11, 6);
-        Due.are("noteCount", new int[] {x.noteCount(0), x.noteCount(1), x.noteCount(-1), x.noteCount(2)}, 0, 1, INVALID, INVALID);
-        Due.are("the note", note(x, 1, 0), 0, 11, 6);
+        Due.are("noteCount", new int[] {x.noteCount(0), x.noteCount(1), x.noteCount(-1), x.noteCount(2)}, 0, 1, INVALID,
+                INVALID);
+        Due.are("the note", Ask.note(x, 1, 0), 0, 11, 6);
         Due.are("noteInfo's errors", new int[] {x.noteInfo(0, 0, 0), x.noteInfo(1, 1, 2), x.noteInfo(1, -1, 0),
             x.noteInfo(2, 0, 0), x.noteInfo(-1, 0, 0), x.noteInfo(1, 0, 3), x.noteInfo(1, 0, -1), x.noteInfo(1, 9, 3),
             x.noteInfo(1, FAR, 0)},
