@@ -370,6 +370,7 @@ final class SearchEdgesTest {
         setFlags(x, 0);
         Due.are("20 kept pairs", new int[] {x.overfullWith(8), x.overfullWith(29), x.overfullWith(30), x.overfullWith(60)}, 20,
                 20, 0, 0);
+        Due.are("20 overfull spreads, and 10 with two pairs each", new int[] {x.overfullWith(8), x.overfullWith(60)}, 20, 0);
         x = withLines(20, 9);
         x.setFlag(0, 0, 1);
         x.addNote(0, LEFT, 0, 10);
