@@ -102,7 +102,20 @@ final class LanguageTest {
             Matcher found = Pattern.compile(forbidden).matcher(code);
             holds("the text has no " + forbidden, !found.find());
         }
+        names(code);
         lengths(text.split("\n"));
+    }
+
+    /** Of the library the program names Math and System alone. */
+    private static void names(String code) {
+        TreeSet<String> own = new TreeSet<>(List.of("BilingualSetter", "Math", "System"));
+        for (Class<?> one : BilingualSetter.class.getDeclaredClasses()) {
+            own.add(one.getSimpleName());
+        }
+        Matcher found = Pattern.compile("\\b[A-Z]\\w*[a-z]\\w*").matcher(code);
+        while (found.find()) {
+            holds(found.group() + " may be named", own.contains(found.group()));
+        }
     }
 
     /** A method is known by its indented head, and ends with a bracket that is indented as its head is. */
